@@ -1,0 +1,95 @@
+/** Counts and prints the answers that are not as due; no test itself. */
+final class Check {
+    private final String test;
+    private int asked;
+    private int wrong;
+
+    Check(String test) {
+        this.test = test;
+    }
+
+    void due(String what, long got, long want) {
+        asked++;
+        if (got != want) {
+            wrong++;
+            System.out.println(test + ": " + what + " answered " + got + ", due is " + want);
+        }
+    }
+
+    void due(String what, boolean got, boolean want) {
+        due(what, got ? 1 : 0, want ? 1 : 0);
+    }
+
+    void due(String what, String got, String want) {
+        asked++;
+        if (!got.equals(want)) {
+            wrong++;
+            System.out.println(test + ": " + what + " answered '" + got + "', due is '" + want + "'");
+        }
+    }
+
+    int wrong() {
+        return wrong;
+    }
+
+    /** Ends the test, with exit code 1 if an answer was wrong. */
+    void close() {
+        System.out.println(test + ": " + asked + " answers, " + wrong + " wrong");
+        if (wrong != 0 || asked == 0) {
+            System.exit(1);
+        }
+    }
+
+    /** Lays the bytes behind a tape that is empty. */
+    static void tape(StickerPress press, int... bytes) {
+        for (int start = 0; start < bytes.length; start += 20) {
+            int[] five = new int[5];
+            for (int i = 0; i < 20; i++) {
+                int b = start + i < bytes.length ? bytes[start + i] & 255 : 0;
+                five[i / 4] |= b << (24 - 8 * (i % 4));
+            }
+            press.feed(five[0], five[1], five[2], five[3], five[4]);
+        }
+        press.end(bytes.length);
+    }
+
+    static void tape(StickerPress press, String text) {
+        tape(press, bytesOf(text));
+    }
+
+    static int[] bytesOf(String text) {
+        return text.chars().toArray();
+    }
+
+    static boolean shorten(StickerPress press, int i, String from, String to) {
+        tape(press, from + to);
+        return press.shorten(i, from.length());
+    }
+
+    static int fit(StickerPress press, String text, int width) {
+        tape(press, text);
+        return press.fit(width);
+    }
+
+    /** All of OUT, as a text. */
+    static String out(StickerPress press) {
+        StringBuilder all = new StringBuilder();
+        int i = 0;
+        for (int b = press.out(i); b != StickerPress.NONE; b = press.out(i)) {
+            all.append((char) b);
+            i++;
+        }
+        return all.toString();
+    }
+
+    /** All of OUT, as widths of stripes. */
+    static String stripes(StickerPress press) {
+        StringBuilder all = new StringBuilder();
+        int i = 0;
+        for (int width = press.out(i); width != StickerPress.NONE; width = press.out(i)) {
+            all.append(width);
+            i++;
+        }
+        return all.toString();
+    }
+}
