@@ -653,9 +653,8 @@ public final class StickerPress {
             place = NONE;
         }
 
+        /** False leaves the fault and its place. */
         boolean decode() {
-            fault = 0;
-            place = NONE;
             digits.clear();
             if (!endsStand()) {
                 return refuse(FAULT_ENDS, 0);
@@ -752,7 +751,6 @@ public final class StickerPress {
             int first = count;
             for (int i = first; i < first + n; i++) {
                 groups[i] = g;
-                times[i] = 0;
                 waits[i] = true;
             }
             waiting[g] += n;
@@ -850,7 +848,6 @@ public final class StickerPress {
             if (isPlace(place)) {
                 free[place / CELLS] &= ~(1L << (place % CELLS));
                 numbers[place] = number;
-                spoiled[place] = false;
             }
         }
 

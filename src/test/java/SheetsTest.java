@@ -139,6 +139,7 @@ public final class SheetsTest {
         p.spoil(1, 0);
         CHECK.due("16 wait behind spoil", p.look(1), 1);
         CHECK.due("16 free behind spoil", p.look(2), 8);
+        CHECK.due("16 sheets behind spoil, asked first", p.look(4), 1);
         int[] wrong = {-1, 5, Integer.MAX_VALUE, Integer.MIN_VALUE};
         for (int what : wrong) {
             CHECK.due("16 what " + what, p.look(what), NONE);
