@@ -2,8 +2,6 @@
 public final class BarsTest {
     private static final Check CHECK = new Check("BarsTest");
     private static final int NONE = StickerPress.NONE;
-    private static final String[] CODES = {
-        "00110", "10001", "01001", "11000", "00101", "10100", "01100", "00011", "10010", "01010"};
 
     public static void main(String[] args) {
         ratio();
@@ -20,41 +18,6 @@ public final class BarsTest {
         faultTold();
         take();
         CHECK.close();
-    }
-
-    /** The stripes (0 narrow, 1 wide) of digits that are even in number, whatever their check. */
-    private static String stripesOf(String digits) {
-        StringBuilder all = new StringBuilder("0000");
-        for (int i = 0; i < digits.length(); i += 2) {
-            String black = CODES[digits.charAt(i) - '0'];
-            String white = CODES[digits.charAt(i + 1) - '0'];
-            for (int k = 0; k < 5; k++) {
-                all.append(black.charAt(k)).append(white.charAt(k));
-            }
-        }
-        return all.append("100").toString();
-    }
-
-    private static String widths(String stripes, int narrow, int wide) {
-        return stripes.replace('1', 'w').replace('0', (char) ('0' + narrow)).replace('w', (char) ('0' + wide));
-    }
-
-    private static int read(StickerPress p, String stripes, int narrow, int wide) {
-        int[] bytes = new int[stripes.length()];
-        for (int i = 0; i < bytes.length; i++) {
-            bytes[i] = stripes.charAt(i) == '1' ? wide : narrow;
-        }
-        Check.tape(p, bytes);
-        return p.read();
-    }
-
-    private static String reversed(String text) {
-        return new StringBuilder(text).reverse().toString();
-    }
-
-    private static String changed(String text, int i) {
-        char other = text.charAt(i) == '1' ? '0' : '1';
-        return text.substring(0, i) + other + text.substring(i + 1);
     }
 
     /** What is told is that, and OUT stayed. */
@@ -82,11 +45,11 @@ public final class BarsTest {
         }
         Check.tape(p, "1");
         p.bars();
-        CHECK.due("9 wide ones are three", Check.stripes(p), widths(stripesOf("17"), 1, 3));
+        CHECK.due("9 wide ones are three", Check.stripes(p), Bars.widths(Bars.stripesOf("17"), 1, 3));
         CHECK.due("9 two", p.ratio(2), true);
         Check.tape(p, "1");
         p.bars();
-        CHECK.due("9 wide ones are two", Check.stripes(p), widths(stripesOf("17"), 1, 2));
+        CHECK.due("9 wide ones are two", Check.stripes(p), Bars.widths(Bars.stripesOf("17"), 1, 2));
     }
 
     private static void bars() {
@@ -98,7 +61,7 @@ public final class BarsTest {
             StickerPress p = new StickerPress();
             Check.tape(p, row[0]);
             CHECK.due("10 bars of " + row[0], p.bars(), 7 + 5 * row[1].length());
-            CHECK.due("10 stripes of " + row[0], Check.stripes(p), widths(stripesOf(row[1]), 1, 2));
+            CHECK.due("10 stripes of " + row[0], Check.stripes(p), Bars.widths(Bars.stripesOf(row[1]), 1, 2));
             CHECK.due("10 tape is empty", p.end(1), false);
         }
         StickerPress p = new StickerPress();
@@ -136,10 +99,10 @@ public final class BarsTest {
 
     private static void readsMeasured() {
         StickerPress p = new StickerPress();
-        CHECK.due("11 widest apart", read(p, stripesOf("0123"), 1, 99), 4);
+        CHECK.due("11 widest apart", Bars.read(p, Bars.stripesOf("0123"), 1, 99), 4);
         CHECK.due("11 digits", Check.out(p), "0123");
-        CHECK.due("11 nearest", read(p, stripesOf("17"), 98, 99), 2);
-        int[] bytes = Check.bytesOf(stripesOf("17"));
+        CHECK.due("11 nearest", Bars.read(p, Bars.stripesOf("17"), 98, 99), 2);
+        int[] bytes = Check.bytesOf(Bars.stripesOf("17"));
         // With 10 and 20 as the least and the greatest, 15 is narrow and 16 is wide.
         for (int i = 0; i < bytes.length; i++) {
             bytes[i] = bytes[i] == '1' ? 16 : 15;
@@ -159,12 +122,12 @@ public final class BarsTest {
         String[] rows = {"17", "0123", "1236", "123456789012", "000000000017"};
         for (String row : rows) {
             StickerPress p = new StickerPress();
-            CHECK.due("11 from behind " + row, read(p, reversed(stripesOf(row)), 3, 8), row.length());
+            CHECK.due("11 from behind " + row, Bars.read(p, Bars.reversed(Bars.stripesOf(row)), 3, 8), row.length());
             CHECK.due("11 digits from behind", Check.out(p), row);
             CHECK.due("12 no fault", p.fault(0), 0);
             CHECK.due("12 no place", p.fault(1), NONE);
             CHECK.due("12 from behind", p.fault(2), 1);
-            read(p, stripesOf(row), 3, 8);
+            Bars.read(p, Bars.stripesOf(row), 3, 8);
             CHECK.due("12 as they come", p.fault(2), 0);
             CHECK.due("11 digits as they come", Check.out(p), row);
         }
@@ -184,7 +147,7 @@ public final class BarsTest {
         for (int measure : wrong) {
             for (int i : new int[] {0, 8, 16}) {
                 int[] bytes = new int[17];
-                String stripes = stripesOf("17");
+                String stripes = Bars.stripesOf("17");
                 for (int k = 0; k < 17; k++) {
                     bytes[k] = stripes.charAt(k) == '1' ? 2 : 1;
                 }
@@ -194,7 +157,7 @@ public final class BarsTest {
             }
         }
         int[] seven = new int[77];
-        String stripes = stripesOf("12345678901234");
+        String stripes = Bars.stripesOf("12345678901234");
         for (int k = 0; k < 77; k++) {
             seven[k] = stripes.charAt(k) == '1' ? 2 : 1;
         }
@@ -207,61 +170,61 @@ public final class BarsTest {
 
     private static void faultOfEnds() {
         StickerPress p = keeping();
-        String good = stripesOf("0123");
+        String good = Bars.stripesOf("0123");
         int[] ends = {0, 1, 2, 3, 24, 25, 26};
         for (int i : ends) {
-            dueFault(p, "12 end " + i, read(p, changed(good, i), 1, 2), 2, 0);
+            dueFault(p, "12 end " + i, Bars.read(p, Bars.changed(good, i), 1, 2), 2, 0);
         }
-        dueFault(p, "12 all are as wide", read(p, good, 5, 5), 2, 0);
+        dueFault(p, "12 all are as wide", Bars.read(p, good, 5, 5), 2, 0);
     }
 
     private static void faultOfDigits() {
-        String good = stripesOf("12345670");
+        String good = Bars.stripesOf("12345670");
         for (int i = 4; i < 44; i++) {
             StickerPress p = keeping();
-            dueFault(p, "12 stripe " + i, read(p, changed(good, i), 1, 2), 3, 2 * ((i - 4) / 10));
+            dueFault(p, "12 stripe " + i, Bars.read(p, Bars.changed(good, i), 1, 2), 3, 2 * ((i - 4) / 10));
         }
         StickerPress p = keeping();
-        dueFault(p, "12 the first of two pairs", read(p, changed(changed(good, 40), 15), 1, 2), 3, 2);
+        dueFault(p, "12 the first of two pairs", Bars.read(p, Bars.changed(Bars.changed(good, 40), 15), 1, 2), 3, 2);
         // Read as they come it fails at the digits, from behind at the ends: told is the former.
-        dueFault(p, "12 the last pair", read(p, changed(stripesOf("123456789012"), 63), 1, 2), 3, 10);
+        dueFault(p, "12 the last pair", Bars.read(p, Bars.changed(Bars.stripesOf("123456789012"), 63), 1, 2), 3, 10);
     }
 
     private static void faultOfCheck() {
         StickerPress p = keeping();
         for (int check = 0; check < 10; check++) {
             if (check != 7) {
-                dueFault(p, "12 check " + check, read(p, stripesOf("1" + check), 1, 2), 4, 0);
+                dueFault(p, "12 check " + check, Bars.read(p, Bars.stripesOf("1" + check), 1, 2), 4, 0);
             }
         }
-        dueFault(p, "12 two digits changed about", read(p, stripesOf("1326"), 1, 2), 4, 0);
-        CHECK.due("12 as it is due", read(p, stripesOf("1236"), 1, 2), 4);
+        dueFault(p, "12 two digits changed about", Bars.read(p, Bars.stripesOf("1326"), 1, 2), 4, 0);
+        CHECK.due("12 as it is due", Bars.read(p, Bars.stripesOf("1236"), 1, 2), 4);
         StickerPress q = keeping();
-        dueFault(q, "12 from behind with another check", read(q, reversed(stripesOf("18")), 1, 2), 2, 0);
+        dueFault(q, "12 from behind with another check", Bars.read(q, Bars.reversed(Bars.stripesOf("18")), 1, 2), 2, 0);
     }
 
     private static void faultsInTheirOrder() {
         StickerPress p = keeping();
-        String broken = changed(changed(stripesOf("18"), 5), 16);
-        dueFault(p, "12 ends ahead of digits", read(p, broken, 1, 2), 2, 0);
-        dueFault(p, "12 digits ahead of the check", read(p, changed(stripesOf("1233"), 5), 1, 2), 3, 0);
-        dueFault(p, "12 measures ahead of ends", read(p, broken, 0, 2), 1, 0);
+        String broken = Bars.changed(Bars.changed(Bars.stripesOf("18"), 5), 16);
+        dueFault(p, "12 ends ahead of digits", Bars.read(p, broken, 1, 2), 2, 0);
+        dueFault(p, "12 digits ahead of the check", Bars.read(p, Bars.changed(Bars.stripesOf("1233"), 5), 1, 2), 3, 0);
+        dueFault(p, "12 measures ahead of ends", Bars.read(p, broken, 0, 2), 1, 0);
     }
 
     private static void faultTold() {
         StickerPress p = new StickerPress();
-        read(p, stripesOf("18"), 1, 2);
+        Bars.read(p, Bars.stripesOf("18"), 1, 2);
         CHECK.due("12 fault", p.fault(0), 4);
         int[] wrong = {-1, 3, 4, Integer.MAX_VALUE, Integer.MIN_VALUE};
         for (int what : wrong) {
             CHECK.due("12 what " + what, p.fault(what), NONE);
         }
-        read(p, reversed(stripesOf("17")), 1, 2);
-        read(p, "", 1, 2);
+        Bars.read(p, Bars.reversed(Bars.stripesOf("17")), 1, 2);
+        Bars.read(p, "", 1, 2);
         CHECK.due("12 of the latest read: fault", p.fault(0), 1);
         CHECK.due("12 of the latest read: place", p.fault(1), 0);
         CHECK.due("12 of the latest read: direction", p.fault(2), 0);
-        read(p, stripesOf("17"), 1, 2);
+        Bars.read(p, Bars.stripesOf("17"), 1, 2);
         CHECK.due("12 without one", p.fault(0), 0);
         CHECK.due("12 no place without one", p.fault(1), NONE);
         Check.tape(p, "x");

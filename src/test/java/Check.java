@@ -1,11 +1,49 @@
+import java.lang.reflect.InvocationTargetException;
+import java.lang.reflect.Method;
+import java.lang.reflect.Modifier;
+import java.util.Arrays;
+import java.util.Comparator;
+
 /** Counts and prints the answers that are not as due; no test itself. */
 final class Check {
-    private final String test;
+    private final String file;
+    private String test;
     private int asked;
     private int wrong;
 
-    Check(String test) {
-        this.test = test;
+    Check(String file) {
+        this.file = file;
+        test = file;
+    }
+
+    /** Runs all tests of a class, so that none is forgotten: its static methods without parameters. Then closes. */
+    void runAll(Class<?> tests) throws IllegalAccessException {
+        Method[] methods = tests.getDeclaredMethods();
+        Arrays.sort(methods, Comparator.comparing(Method::getName));
+        for (Method method : methods) {
+            boolean isTest = Modifier.isStatic(method.getModifiers()) && !method.isSynthetic()
+                && method.getParameterCount() == 0 && method.getReturnType() == void.class;
+            if (isTest) {
+                runOne(method);
+            }
+        }
+        test = file;
+        close();
+    }
+
+    private void runOne(Method method) throws IllegalAccessException {
+        test = file + "." + method.getName();
+        int before = asked;
+        try {
+            method.invoke(null);
+        } catch (InvocationTargetException thrown) {
+            wrong++;
+            System.out.println(test + ": threw " + thrown.getCause());
+        }
+        if (asked == before) {
+            wrong++;
+            System.out.println(test + ": asked nothing");
+        }
     }
 
     void due(String what, long got, long want) {

@@ -2,7 +2,7 @@
 public final class SheetsTest {
     private static final Check CHECK = new Check("SheetsTest");
     private static final int NONE = StickerPress.NONE;
-    private static final long ALL = (1L << 40) - 1;
+    private static final long ALL = Layouts.ALL;
 
     public static void main(String[] args) {
         sheet();
@@ -20,35 +20,6 @@ public final class SheetsTest {
         planOfHeaps();
         planKeepsUp();
         CHECK.close();
-    }
-
-    private static long first(int n) {
-        return (1L << n) - 1;
-    }
-
-    private static StickerPress with(int a, int b, int c) {
-        StickerPress p = new StickerPress();
-        p.sheet(0, first(a));
-        p.sheet(1, first(b));
-        p.sheet(2, first(c));
-        return p;
-    }
-
-    /** The heaps of groups, a bar, the heaps of sheets ('-' for none), then pieces and sheets. */
-    private static String best(StickerPress p) {
-        StringBuilder all = new StringBuilder();
-        for (int g = 0; g < 6; g++) {
-            all.append(heapSign(p.heap(g, 0)));
-        }
-        all.append('|');
-        for (int s = 0; s < 3; s++) {
-            all.append(heapSign(p.heap(s, 1)));
-        }
-        return all.append(' ').append(p.look(3)).append(' ').append(p.look(4)).toString();
-    }
-
-    private static char heapSign(int heap) {
-        return heap == NONE ? '-' : (char) ('0' + heap);
     }
 
     private static void sheet() {
@@ -121,7 +92,7 @@ public final class SheetsTest {
     }
 
     private static void look() {
-        StickerPress p = with(5, 10, 0);
+        StickerPress p = Layouts.with(5, 10, 0);
         CHECK.due("16 pieces without labels", p.look(3), 0);
         CHECK.due("16 sheets without labels", p.look(4), 0);
         p.come(1, 4);
@@ -147,85 +118,85 @@ public final class SheetsTest {
     }
 
     private static void fewestPieces() {
-        StickerPress p = with(3, 4, 0);
+        StickerPress p = Layouts.with(3, 4, 0);
         p.come(0, 3);
         p.come(1, 4);
         // One heap of two sheets is 2 + 2 - 1 pieces; two heaps are 2 + 2 - 2.
-        CHECK.due("16 two heaps", best(p), "010000|01- 2 2");
-        StickerPress q = with(10, 10, 10);
+        CHECK.due("16 two heaps", Layouts.best(p), "010000|01- 2 2");
+        StickerPress q = Layouts.with(10, 10, 10);
         q.come(0, 6);
         q.come(1, 6);
         q.come(2, 6);
         q.come(3, 4);
-        CHECK.due("16 three heaps of one sheet", best(q), "012000|012 4 3");
+        CHECK.due("16 three heaps of one sheet", Layouts.best(q), "012000|012 4 3");
         q.come(3, 1);
-        CHECK.due("16 three sheets, one torn", best(q), "000100|001 5 3");
+        CHECK.due("16 three sheets, one torn", Layouts.best(q), "000100|001 5 3");
     }
 
     private static void fewestSheets() {
-        StickerPress p = with(3, 10, 4);
+        StickerPress p = Layouts.with(3, 10, 4);
         p.come(0, 3);
         p.come(1, 4);
-        CHECK.due("16 one sheet", best(p), "000000|-0- 2 1");
+        CHECK.due("16 one sheet", Layouts.best(p), "000000|-0- 2 1");
         p.come(2, 4);
         // All pieces are equal; two sheets are fewer than three.
-        CHECK.due("16 two sheets", best(p), "001000|-01 3 2");
+        CHECK.due("16 two sheets", Layouts.best(p), "001000|-01 3 2");
     }
 
     private static void firstByGroups() {
-        StickerPress p = with(7, 7, 0);
+        StickerPress p = Layouts.with(7, 7, 0);
         p.come(1, 2);
         p.come(3, 5);
         p.come(5, 5);
-        CHECK.due("17 lesser heaps of groups first", best(p), "000001|01- 3 2");
-        StickerPress q = with(5, 7, 0);
+        CHECK.due("17 lesser heaps of groups first", Layouts.best(p), "000001|01- 3 2");
+        StickerPress q = Layouts.with(5, 7, 0);
         q.come(1, 2);
         q.come(3, 5);
         q.come(5, 5);
-        CHECK.due("17 groups ahead of sheets", best(q), "000001|10- 3 2");
+        CHECK.due("17 groups ahead of sheets", Layouts.best(q), "000001|10- 3 2");
     }
 
     private static void firstBySheets() {
-        StickerPress p = with(9, 9, 9);
+        StickerPress p = Layouts.with(9, 9, 9);
         p.come(4, 9);
-        CHECK.due("17 sheet 0, none last", best(p), "000000|0-- 1 1");
+        CHECK.due("17 sheet 0, none last", Layouts.best(p), "000000|0-- 1 1");
         p.come(4, 1);
-        CHECK.due("17 sheets 0 and 1", best(p), "000000|00- 2 2");
-        p.sheet(0, first(1));
-        CHECK.due("17 sheets 0 and 1 just so", best(p), "000000|00- 2 2");
+        CHECK.due("17 sheets 0 and 1", Layouts.best(p), "000000|00- 2 2");
+        p.sheet(0, Layouts.first(1));
+        CHECK.due("17 sheets 0 and 1 just so", Layouts.best(p), "000000|00- 2 2");
         p.sheet(0, 0);
-        CHECK.due("17 sheets 1 and 2", best(p), "000000|-00 2 2");
+        CHECK.due("17 sheets 1 and 2", Layouts.best(p), "000000|-00 2 2");
         p.come(0, 9);
-        p.sheet(0, first(8));
-        CHECK.due("17 group 0 has heap 0, so sheet 1 has it", best(p), "000010|101 3 3");
-        p.sheet(0, first(9));
-        CHECK.due("17 lesser heap for the lesser sheet", best(p), "000010|011 3 3");
+        p.sheet(0, Layouts.first(8));
+        CHECK.due("17 group 0 has heap 0, so sheet 1 has it", Layouts.best(p), "000010|101 3 3");
+        p.sheet(0, Layouts.first(9));
+        CHECK.due("17 lesser heap for the lesser sheet", Layouts.best(p), "000010|011 3 3");
     }
 
     private static void tornGroup() {
-        StickerPress p = with(4, 4, 4);
+        StickerPress p = Layouts.with(4, 4, 4);
         p.come(0, 12);
-        CHECK.due("17 on three sheets", best(p), "000000|000 3 3");
-        p.sheet(1, first(5));
+        CHECK.due("17 on three sheets", Layouts.best(p), "000000|000 3 3");
+        p.sheet(1, Layouts.first(5));
         p.come(1, 1);
-        CHECK.due("17 two on three sheets", best(p), "000000|000 4 3");
+        CHECK.due("17 two on three sheets", Layouts.best(p), "000000|000 4 3");
     }
 
     private static void noLayout() {
-        StickerPress p = with(3, 3, 3);
+        StickerPress p = Layouts.with(3, 3, 3);
         p.come(2, 10);
-        CHECK.due("16 no layout", best(p), "------|--- -1 -1");
+        CHECK.due("16 no layout", Layouts.best(p), "------|--- -1 -1");
         CHECK.due("18 no layout", p.plan(0, 0), NONE);
         CHECK.due("19 no layout", p.print(0), NONE);
         CHECK.due("16 came without a layout", p.look(0), 10);
         CHECK.due("16 wait without a layout", p.look(1), 10);
         CHECK.due("16 free without a layout", p.look(2), 9);
-        p.sheet(1, first(7));
-        CHECK.due("16 a layout again", best(p), "000000|00- 2 2");
+        p.sheet(1, Layouts.first(7));
+        CHECK.due("16 a layout again", Layouts.best(p), "000000|00- 2 2");
     }
 
     private static void heap() {
-        StickerPress p = with(3, 4, 5);
+        StickerPress p = Layouts.with(3, 4, 5);
         p.come(1, 4);
         CHECK.due("17 group with labels", p.heap(1, 0), 0);
         CHECK.due("17 group without labels", p.heap(5, 0), 0);
@@ -246,7 +217,7 @@ public final class SheetsTest {
         p.come(1, 2);
         p.come(3, 1);
         // Group 1 has 2, 3 and group 3 has 0, 1, 4: best is each on its own sheet.
-        CHECK.due("18 best", best(p), "000100|10- 2 2");
+        CHECK.due("18 best", Layouts.best(p), "000100|10- 2 2");
         CHECK.due("18 first of group 1", p.plan(1, 0), 2);
         CHECK.due("18 second of group 1", p.plan(1, 39), 3);
         CHECK.due("18 no free cell", p.plan(1, 1), NONE);
@@ -264,11 +235,11 @@ public final class SheetsTest {
     }
 
     private static void planOfHeaps() {
-        StickerPress p = with(4, 3, 5);
+        StickerPress p = Layouts.with(4, 3, 5);
         p.come(2, 6);
         p.come(0, 1);
         p.come(5, 5);
-        CHECK.due("18 torn best", best(p), "000001|001 4 3");
+        CHECK.due("18 torn best", Layouts.best(p), "000001|001 4 3");
         CHECK.due("18 group 0 first", p.plan(0, 0), 6);
         CHECK.due("18 group 2 behind it", p.plan(0, 1), 0);
         CHECK.due("18 group 2 to the end of sheet 0", p.plan(0, 3), 2);
@@ -279,12 +250,12 @@ public final class SheetsTest {
     }
 
     private static void planKeepsUp() {
-        StickerPress p = with(2, 3, 0);
+        StickerPress p = Layouts.with(2, 3, 0);
         p.come(0, 2);
         CHECK.due("18 on sheet 0", p.plan(0, 1), 1);
         p.come(0, 1);
         CHECK.due("18 on sheet 1 behind come", p.plan(1, 2), 2);
-        p.sheet(0, first(3));
+        p.sheet(0, Layouts.first(3));
         CHECK.due("18 on sheet 0 behind sheet", p.plan(0, 2), 2);
         p.print(0);
         CHECK.due("18 nothing behind print", p.plan(0, 2), NONE);
