@@ -6,6 +6,9 @@ import java.util.Comparator;
 
 /** Counts and prints the answers that are not as due; no test itself. */
 final class Check {
+    /** Above what OUT can have, so that an OUT without an end fails a test and does not hang it. */
+    private static final int MOST_OUT = 100;
+
     private final String file;
     private String test;
     private int asked;
@@ -112,10 +115,10 @@ final class Check {
     /** All of OUT, as a text. */
     static String out(StickerPress press) {
         StringBuilder all = new StringBuilder();
-        int i = 0;
-        for (int b = press.out(i); b != StickerPress.NONE; b = press.out(i)) {
+        int b = press.out(0);
+        for (int i = 1; i <= MOST_OUT && b != StickerPress.NONE; i++) {
             all.append((char) b);
-            i++;
+            b = press.out(i);
         }
         return all.toString();
     }
@@ -123,10 +126,10 @@ final class Check {
     /** All of OUT, as widths of stripes. */
     static String stripes(StickerPress press) {
         StringBuilder all = new StringBuilder();
-        int i = 0;
-        for (int width = press.out(i); width != StickerPress.NONE; width = press.out(i)) {
+        int width = press.out(0);
+        for (int i = 1; i <= MOST_OUT && width != StickerPress.NONE; i++) {
             all.append(width);
-            i++;
+            width = press.out(i);
         }
         return all.toString();
     }
