@@ -64,7 +64,7 @@ public final class StickerPress {
         stripes = new Stripes();
         labels = new Labels();
         sheets = new Sheets();
-        best = new Best(labels, sheets);
+        best = new Best();
     }
 
     public boolean wide(int sign, int w) {
@@ -157,10 +157,10 @@ public final class StickerPress {
             case 2:
                 return sheets.allFree();
             case 3:
-                best.refresh();
+                best.refresh(labels, sheets);
                 return best.pieces();
             case 4:
-                best.refresh();
+                best.refresh(labels, sheets);
                 return best.sheetsInHeaps();
             default:
                 return NONE;
@@ -168,7 +168,7 @@ public final class StickerPress {
     }
 
     public int heap(int g, int what) {
-        best.refresh();
+        best.refresh(labels, sheets);
         switch (what) {
             case 0:
                 return best.heapOfGroup(g);
@@ -180,12 +180,12 @@ public final class StickerPress {
     }
 
     public int plan(int s, int c) {
-        best.refresh();
+        best.refresh(labels, sheets);
         return best.labelFor(placeOf(s, c));
     }
 
     public int print(int s) {
-        best.refresh();
+        best.refresh(labels, sheets);
         if (!isSheet(s) || !best.exists()) {
             return NONE;
         }
@@ -502,8 +502,8 @@ public final class StickerPress {
         Stripes() {
             digits = new Row(2 * MOST_PAIRS);
             wides = new Row(MOST_STRIPES);
-            ahead = new Reading(wides, false);
-            behind = new Reading(wides, true);
+            ahead = new Reading(false);
+            behind = new Reading(true);
             wideStripe = 2;
             fault = 0;
             place = NONE;
@@ -542,10 +542,10 @@ public final class StickerPress {
                 return NONE;
             }
             findWides(measured);
-            if (ahead.decode()) {
+            if (ahead.decode(wides)) {
                 return keepDigits(ahead, false, result);
             }
-            if (behind.decode()) {
+            if (behind.decode(wides)) {
                 return keepDigits(behind, true, result);
             }
             keepFault(ahead.fault, ahead.place);
@@ -639,14 +639,12 @@ public final class StickerPress {
 
     /** What stripes say that are read in one direction: digits, or a fault and its place. */
     private static final class Reading {
-        private final Row wides;
         private final boolean backward;
         private final Row digits;
         private int fault;
         private int place;
 
-        Reading(Row wides, boolean backward) {
-            this.wides = wides;
+        Reading(boolean backward) {
             this.backward = backward;
             digits = new Row(2 * MOST_PAIRS);
             fault = 0;
@@ -654,15 +652,15 @@ public final class StickerPress {
         }
 
         /** False leaves the fault and its place. */
-        boolean decode() {
+        boolean decode(Row wides) {
             digits.clear();
-            if (!endsStand()) {
+            if (!endsStand(wides)) {
                 return refuse(FAULT_ENDS, 0);
             }
             int last = wides.size() - TAIL_STRIPES - PAIR_STRIPES;
             for (int start = HEAD_STRIPES; start <= last; start += PAIR_STRIPES) {
                 int first = digits.size();
-                if (!addDigit(start) || !addDigit(start + 1)) {
+                if (!addDigit(wides, start) || !addDigit(wides, start + 1)) {
                     return refuse(FAULT_DIGIT, first);
                 }
             }
@@ -679,25 +677,25 @@ public final class StickerPress {
             return false;
         }
 
-        private int stripe(int i) {
+        private int stripe(Row wides, int i) {
             return wides.at(backward ? wides.size() - 1 - i : i);
         }
 
-        private boolean endsStand() {
+        private boolean endsStand(Row wides) {
             for (int i = 0; i < HEAD_STRIPES; i++) {
-                if (stripe(i) != 0) {
+                if (stripe(wides, i) != 0) {
                     return false;
                 }
             }
             int tail = wides.size() - TAIL_STRIPES;
-            return stripe(tail) == 1 && stripe(tail + 1) == 0 && stripe(tail + 2) == 0;
+            return stripe(wides, tail) == 1 && stripe(wides, tail + 1) == 0 && stripe(wides, tail + 2) == 0;
         }
 
         /** The digit of every other stripe from the start on; false if these five are none. */
-        private boolean addDigit(int start) {
+        private boolean addDigit(Row wides, int start) {
             int code = 0;
             for (int i = 0; i < DIGIT_STRIPES; i++) {
-                code = code * 2 + stripe(start + 2 * i);
+                code = code * 2 + stripe(wides, start + 2 * i);
             }
             for (int digit = 0; digit < DIGIT_CODES.length; digit++) {
                 if (DIGIT_CODES[digit] == code) {
@@ -745,7 +743,7 @@ public final class StickerPress {
             if (!isGroup(g) || n < 1 || n > GROUP_LABELS) {
                 return NONE;
             }
-            if (waiting[g] + n > GROUP_LABELS || count + n > LABELS) {
+            if (waitingIn(g) + n > GROUP_LABELS || count + n > LABELS) {
                 return NONE;
             }
             int first = count;
@@ -753,7 +751,7 @@ public final class StickerPress {
                 groups[i] = g;
                 waits[i] = true;
             }
-            waiting[g] += n;
+            changeWaiting(g, n);
             count += n;
             return first;
         }
@@ -765,18 +763,18 @@ public final class StickerPress {
         void markPrinted(int i) {
             if (isLabel(i) && waits[i]) {
                 waits[i] = false;
-                waiting[groups[i]]--;
+                changeWaiting(groups[i], -1);
                 times[i]++;
             }
         }
 
         /** False if its group has as many that wait as it may have. */
         boolean waitAnew(int i) {
-            if (!isLabel(i) || waits[i] || waiting[groups[i]] >= GROUP_LABELS) {
+            if (!isLabel(i) || waits[i] || waitingIn(groups[i]) >= GROUP_LABELS) {
                 return false;
             }
             waits[i] = true;
-            waiting[groups[i]]++;
+            changeWaiting(groups[i], 1);
             return true;
         }
 
@@ -798,6 +796,12 @@ public final class StickerPress {
 
         private boolean isLabel(int i) {
             return i >= 0 && i < count;
+        }
+
+        private void changeWaiting(int g, int by) {
+            if (isGroup(g)) {
+                waiting[g] += by;
+            }
         }
     }
 
@@ -879,24 +883,24 @@ public final class StickerPress {
         private static final int GROUP_CODES = 1 << (2 * GROUPS);
         private static final int NO_LAYOUT = 1 << 20;
 
-        private final Labels labels;
-        private final Sheets sheets;
         private final int[] counts;
+        private final int[] cells;
         private final int[] room;
         private final int[] starts;
         private final int[] planned;
+        private int waiting;
         private boolean fresh;
         private int rank;
         private int groupCode;
         private int sheetCode;
 
-        Best(Labels labels, Sheets sheets) {
-            this.labels = labels;
-            this.sheets = sheets;
+        Best() {
             counts = new int[GROUPS];
+            cells = new int[SHEETS];
             room = new int[HEAPS];
             starts = new int[HEAPS];
             planned = new int[ALL_CELLS];
+            waiting = 0;
             fresh = false;
             rank = NO_LAYOUT;
             groupCode = GROUP_CODES;
@@ -908,10 +912,11 @@ public final class StickerPress {
         }
 
         /** Must be called ahead of the questions below, which tell of the layout that was found last. */
-        void refresh() {
+        void refresh(Labels labels, Sheets sheets) {
             if (!fresh) {
+                countAll(labels, sheets);
                 seek();
-                layAll();
+                layAll(labels, sheets);
                 fresh = true;
             }
         }
@@ -926,7 +931,7 @@ public final class StickerPress {
             }
             int sum = rank / (SHEETS + 1);
             for (int g = 0; g < GROUPS; g++) {
-                if (labels.waitingIn(g) > 0) {
+                if (counts[g] > 0) {
                     sum++;
                 }
             }
@@ -953,13 +958,20 @@ public final class StickerPress {
             return isPlace(place) && exists() ? planned[place] : NONE;
         }
 
+        private void countAll(Labels labels, Sheets sheets) {
+            for (int g = 0; g < GROUPS; g++) {
+                counts[g] = labels.waitingIn(g);
+            }
+            for (int s = 0; s < SHEETS; s++) {
+                cells[s] = sheets.freeIn(s);
+            }
+            waiting = labels.allWaiting();
+        }
+
         private void seek() {
             rank = NO_LAYOUT;
             groupCode = GROUP_CODES;
             sheetCode = SHEET_CODES;
-            for (int g = 0; g < GROUPS; g++) {
-                counts[g] = labels.waitingIn(g);
-            }
             for (int code = 0; code < SHEET_CODES; code++) {
                 trySheets(code);
             }
@@ -988,14 +1000,14 @@ public final class StickerPress {
             for (int s = 0; s < SHEETS; s++) {
                 int heap = sheetHeap(code, s);
                 if (heap < HEAPS) {
-                    room[heap] += sheets.freeIn(s);
-                    all += sheets.freeIn(s);
+                    room[heap] += cells[s];
+                    all += cells[s];
                 }
             }
-            return all >= labels.allWaiting();
+            return all >= waiting;
         }
 
-        private void layAll() {
+        private void layAll(Labels labels, Sheets sheets) {
             for (int place = 0; place < ALL_CELLS; place++) {
                 planned[place] = NONE;
             }
@@ -1006,23 +1018,23 @@ public final class StickerPress {
                 starts[h] = 0;
             }
             for (int g = 0; g < GROUPS; g++) {
-                layGroup(g);
+                layGroup(g, labels, sheets);
             }
         }
 
-        private void layGroup(int g) {
+        private void layGroup(int g, Labels labels, Sheets sheets) {
             if (counts[g] == 0) {
                 return;
             }
             int heap = groupHeap(groupCode, g);
             for (int i = 0; i < labels.count(); i++) {
                 if (labels.waitsIn(i, g)) {
-                    layLabel(i, heap);
+                    layLabel(i, heap, sheets);
                 }
             }
         }
 
-        private void layLabel(int number, int heap) {
+        private void layLabel(int number, int heap, Sheets sheets) {
             if (heap >= HEAPS) {
                 return;
             }

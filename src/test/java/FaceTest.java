@@ -27,6 +27,7 @@ public final class FaceTest {
             inside(inside);
         }
         words();
+        constructors();
         CHECK.close();
     }
 
@@ -88,9 +89,14 @@ public final class FaceTest {
         }
     }
 
-    private static void words() throws Exception {
+    /** The source without its comments. */
+    private static String code() throws Exception {
         String source = Files.readString(Path.of("src/main/java/StickerPress.java"));
-        String code = source.replaceAll("(?s)/\\*.*?\\*/", "").replaceAll("//.*", "");
+        return source.replaceAll("(?s)/\\*.*?\\*/", "").replaceAll("//.*", "");
+    }
+
+    private static void words() throws Exception {
+        String code = code();
         String[] forbidden = {"\\bthrow\\b", "\\btry\\b", "\\bcatch\\b", "\\bsynchronized\\b", "\\bassert\\b", "->", "::",
             "\\bimport\\b", "\\bpackage\\b", "\\bObject\\b", "Exact\\b", "\\bSystem\\.(?!arraycopy)", "\"", "@"};
         for (String word : forbidden) {
@@ -99,5 +105,17 @@ public final class FaceTest {
         }
         CHECK.due("the code is found", code.contains("public final class StickerPress"), true);
         CHECK.due("at most twelve classes", StickerPress.class.getDeclaredClasses().length <= 11, true);
+    }
+
+    /** Rule 12: a constructor hands out nothing of the object that it makes, so others are made of constants alone. */
+    private static void constructors() throws Exception {
+        Matcher made = Pattern.compile("\\bnew [A-Z]\\w*\\(([^;]*)\\);").matcher(code());
+        int found = 0;
+        while (made.find()) {
+            found++;
+            CHECK.due(made.group() + " has constants", made.group(1).matches("(true|false|[A-Z0-9_ *+]*)"), true);
+        }
+        CHECK.due("objects are made", found > 0, true);
+        CHECK.due("the object itself is handed out", Pattern.compile("\\bthis\\b(?!\\.)").matcher(code()).find(), false);
     }
 }
